@@ -495,7 +495,7 @@ public final class ScoreForms {
     private Spans freshSpans() {
         if (spansStale) {
             spans.take(freshRun().bars, NONE);
-            spans.settle(DEEPEST);
+            spans.settle(DEEPEST, null, NONE);
             spansStale = false;
         }
         return spans;
@@ -513,7 +513,7 @@ public final class ScoreForms {
 
     private Mending freshMending() {
         if (mendStale) {
-            mending.seek(freshRun().bars, depthNow);
+            mending.seek(freshRun().bars, freshSpans(), depthNow);
             mendStale = false;
         }
         return mending;
@@ -732,26 +732,25 @@ public final class ScoreForms {
         }
 
         void obey(int sign) {
-            switch (sign) {
-                case '[':
-                    openRepeat();
-                    break;
-                case ':':
-                case ';':
-                case ']':
-                    obeyInRepeat(sign);
-                    break;
-                case '%':
-                    jumpStart = size;
-                    break;
-                case '!':
-                    jumpEnd = size;
-                    break;
-                case '$':
-                    playOnceMore(jumpStart, jumpEnd);
-                    break;
-                default:
-                    break;
+            int top = open - 1;
+            boolean isWithin = top >= 0 && top < DEEPEST;
+            if (sign == '[') {
+                openRepeat();
+            } else if (sign == ':' && isWithin) {
+                firstEnds[top] = size;
+            } else if (sign == ';' && isWithin) {
+                playOnceMore(starts[top], firstEnds[top]);
+            } else if (sign == ']' && isWithin) {
+                if (firstEnds[top] == NONE) {
+                    playOnceMore(starts[top], size);
+                }
+                open--;
+            } else if (sign == '%') {
+                jumpStart = size;
+            } else if (sign == '!') {
+                jumpEnd = size;
+            } else if (sign == '$') {
+                playOnceMore(jumpStart, jumpEnd);
             }
         }
 
@@ -763,29 +762,10 @@ public final class ScoreForms {
             }
         }
 
-        private void obeyInRepeat(int sign) {
-            if (open <= 0 || open > DEEPEST) {
-                return;
-            }
-            int top = open - 1;
-            if (sign == ':') {
-                firstEnds[top] = size;
-            } else if (sign == ';') {
-                playOnceMore(starts[top], firstEnds[top]);
-            } else {
-                if (firstEnds[top] == NONE) {
-                    playOnceMore(starts[top], size);
-                }
-                open--;
-            }
-        }
-
         private void playOnceMore(int from, int to) {
-            if (from < 0 || to > size) {
-                return;
-            }
-            for (int i = from; i < to; i++) {
-                playBar(order[i]);
+            if (from >= 0 && from <= to && to <= size && to - from <= order.length - size) {
+                System.arraycopy(order, from, order, size, to - from);
+                size += to - from;
             }
         }
     }
@@ -862,7 +842,7 @@ public final class ScoreForms {
         // A sign costs 1: no span has so many signs that they would outweigh a bar.
         static final int ONE_BAR = 256;
         private static final int REPEAT_SIGNS = 2, ENDINGS_SIGNS = 4;
-        private static final int SIDE = RUN_BYTES + 1;
+        static final int SIDE = RUN_BYTES + 1;
         private static final int LAYER = SIDE * SIDE;
 
         final int[] codes = new int[RUN_BYTES];
@@ -887,12 +867,17 @@ public final class ScoreForms {
             }
         }
 
-        void settle(int deepest) {
+        /** If these are what is left of a settled whole without a bar, spans that this bar is not within cost what they did. */
+        void settle(int deepest, Spans whole, int missing) {
             int layers = Math.min(deepest, DEEPEST);
             for (int length = 1; length <= size; length++) {
                 for (int i = 0; i + length <= size; i++) {
+                    int j = i + length;
+                    int moved = i >= missing ? 1 : 0;
+                    boolean known = whole != null && (i >= missing || j <= missing);
                     for (int depth = 0; depth <= layers; depth++) {
-                        costs[depth * LAYER + i * SIDE + i + length] = cheapest(depth, i, i + length);
+                        costs[depth * LAYER + i * SIDE + j] =
+                            known ? whole.cost(depth, i + moved, j + moved) : cheapest(depth, i, j);
                     }
                 }
             }
@@ -931,26 +916,18 @@ public final class ScoreForms {
                 && cost(depth - 1, i, i + half) + REPEAT_SIGNS == cost(depth, i, j);
         }
 
-        /** How long the first is, if the best has two endings; or NONE. */
-        int endingsFirst(int depth, int i, int j) {
-            for (int length = 1; 2 * length + 2 <= j - i; length++) {
-                if (endingsSecond(depth, i, j, length) != NONE) {
-                    return length;
-                }
-            }
-            return NONE;
-        }
-
-        /** How long the shortest second behind a first so long is; or NONE. */
-        int endingsSecond(int depth, int i, int j, int length) {
-            if (!isDepth(depth - 1) || length < 1 || !has(i) || !has(j)) {
+        /** The shortest first, then the shortest second, if the best has two endings: SIDE times the one and the other; or NONE. */
+        int endings(int depth, int i, int j) {
+            if (!isDepth(depth - 1) || !isDepth(depth) || !has(i) || !has(j)) {
                 return NONE;
             }
-            int due = cost(depth, i, j);
-            for (int second = 1; 2 * length + second + 1 <= j - i; second++) {
-                int back = i + length + second;
-                if (alikeFrom(i, back) >= length && endingsCost(depth, i, j, length, back) == due) {
-                    return second;
+            int due = costs[depth * LAYER + i * SIDE + j];
+            for (int length = 1; 2 * length + 2 <= j - i; length++) {
+                for (int second = 1; 2 * length + second + 1 <= j - i; second++) {
+                    int back = i + length + second;
+                    if (alikes[i * SIDE + back] >= length && endingsCost(depth, i, j, length, back) == due) {
+                        return length * SIDE + second;
+                    }
                 }
             }
             return NONE;
@@ -958,18 +935,21 @@ public final class ScoreForms {
 
         private boolean mayRepeat(int depth, int i, int j) {
             int half = (j - i) / 2;
-            return depth > 0 && half > 0 && 2 * half == j - i && alikeFrom(i, i + half) >= half;
+            return depth > 0 && half > 0 && 2 * half == j - i && alikes[i * SIDE + i + half] >= half;
         }
 
         private int cheapest(int depth, int i, int j) {
-            // Without repeats every bar is printed, and a single bar can't be less.
-            if (depth == 0 || j - i == 1) {
-                return (j - i) * ONE_BAR;
+            int best = (j - i) * ONE_BAR;
+            // Without repeats every bar is printed.
+            if (depth < 1 || j - i == 1) {
+                return best;
             }
             int base = depth * LAYER;
-            int best = (j - i) * ONE_BAR;
             for (int k = i + 1; k < j; k++) {
-                best = Math.min(best, costs[base + i * SIDE + k] + costs[base + k * SIDE + j]);
+                int cost = costs[base + i * SIDE + k] + costs[base + k * SIDE + j];
+                if (cost < best) {
+                    best = cost;
+                }
             }
             if (mayRepeat(depth, i, j)) {
                 best = Math.min(best, costs[base - LAYER + i * SIDE + (i + j) / 2] + REPEAT_SIGNS);
@@ -984,7 +964,10 @@ public final class ScoreForms {
                 int room = Math.min(back - i - 1, j - back - 1);
                 int longest = Math.min(room, alikes[i * SIDE + back]);
                 for (int length = 1; length <= longest; length++) {
-                    best = Math.min(best, endingsCost(depth, i, j, length, back));
+                    int cost = endingsCost(depth, i, j, length, back);
+                    if (cost < best) {
+                        best = cost;
+                    }
                 }
             }
             return best;
@@ -1098,11 +1081,12 @@ public final class ScoreForms {
         }
 
         private void printEndings(Spans spans, int depth, int i, int j, int level) {
-            int length = spans.endingsFirst(depth, i, j);
-            int second = spans.endingsSecond(depth, i, j, length);
-            if (length == NONE || second == NONE) {
+            int endings = spans.endings(depth, i, j);
+            if (endings == NONE) {
                 return;
             }
+            int length = endings / Spans.SIDE;
+            int second = endings % Spans.SIDE;
             int back = i + length + second;
             put('[');
             printSpan(spans, depth - 1, i, i + length, level + 1);
@@ -1138,7 +1122,7 @@ public final class ScoreForms {
         int which = NONE;
         int cost = 0;
 
-        void seek(Bars bars, int depth) {
+        void seek(Bars bars, Spans whole, int depth) {
             which = NONE;
             cost = 0;
             for (int k = 0; k < bars.size; k++) {
@@ -1147,7 +1131,7 @@ public final class ScoreForms {
                     continue;
                 }
                 rest.take(bars, k);
-                rest.settle(depth);
+                rest.settle(depth, whole, k);
                 best.seek(rest, depth);
                 if (which == NONE || best.cost < cost) {
                     which = k;
