@@ -137,11 +137,7 @@ public final class ScoreForms {
         if (i < 0 || i > RUN_BYTES || j < 0 || j > RUN_BYTES) {
             return BAD;
         }
-        Spans known = freshSpans();
-        if (i >= known.size || j >= known.size) {
-            return 0;
-        }
-        return known.alikeFrom(i, j);
+        return freshSpans().alikeFrom(i, j);
     }
 
     public int again(int i, int j) {
@@ -887,6 +883,7 @@ public final class ScoreForms {
             return i >= 0 && i <= size;
         }
 
+        /** 0 behind the bars, too. */
         int alikeFrom(int i, int j) {
             return has(i) && has(j) ? alikes[i * SIDE + j] : 0;
         }

@@ -20,6 +20,8 @@ public final class FormsOracleTest {
             EVERY.clear();
             BEST.clear();
             checkWhole(randomRun(random));
+            String played = playedPart(random, 0);
+            checkWhole(played.substring(0, Math.min(24, played.length())));
         }
         for (String run : new String[] {"aaaaaaaaaaaaaaaaaaaaaaaa", "abababababababababababab", "aabaabaabaabaabaabaabaab",
             "abacabadabacabaeabacabad", "a1b1a1b1a1c1a1b1a1b1a1c1", "aabbaaccaabbaaddaabbaacc"}) {
@@ -55,6 +57,24 @@ public final class FormsOracleTest {
         }
         String told = run.substring(0, Math.min(24, run.length()));
         return told.replaceAll("([0-9])[0-9]+", "$1").replaceAll("^[0-9]+", "");
+    }
+
+    /** What some score plays: such a run has repeats within repeats far more often than letters drawn by lot. */
+    private static String playedPart(Random random, int depth) {
+        StringBuilder played = new StringBuilder();
+        int items = 1 + random.nextInt(3);
+        for (int k = 0; k < items; k++) {
+            int kind = depth < 4 ? random.nextInt(4) : 0;
+            String a = kind < 2 ? "" + (char) ('a' + random.nextInt(5)) : playedPart(random, depth + 1);
+            if (kind < 2) {
+                played.append(a);
+            } else if (kind == 2) {
+                played.append(a).append(a);
+            } else {
+                played.append(a).append(playedPart(random, depth + 1)).append(a).append(playedPart(random, depth + 1));
+            }
+        }
+        return played.toString();
     }
 
     // ---- every score there is

@@ -401,6 +401,9 @@ public final class PromisesTest {
         checkFound("aaaaa", 1, 1, "[a]!a$");
         checkFound("a1b2a1b2c", 2, 0, "[a1b2]c");
         checkFound("a1ba1", 2, 1, "a1!b$");
+        checkFound("efbefxxxx", 2, 0, "[ef:b;[xx]]");
+        checkFound("xxxxbxxxxc", 2, 0, "[[xx]:b;c]");
+        checkFound("efxxxxefb", 2, 0, "[ef:[xx];b]");
     }
 
     private static void checkFound(String run, int depth, int how, String due) {
