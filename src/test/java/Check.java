@@ -2,25 +2,32 @@
 final class Check {
     static final int RUN = 0, SCORE = 1;
     private static int wrong = 0;
+    private static String words = "";
 
     private Check() {
     }
 
+    /** The document's words that the next answers are due by, told with every wrong one. */
+    static void about(String heading, String sentence) {
+        words = heading + ", \"" + sentence + "\": ";
+    }
+
     static void due(String call, long got, long want) {
         if (got != want) {
-            wrong++;
-            if (wrong <= 50) {
-                System.out.println(call + " answered " + got + ", due is " + want);
-            }
+            tellWrong(call + " answered " + got + ", due is " + want);
         }
     }
 
     static void due(String call, String got, String want) {
         if (!got.equals(want)) {
-            wrong++;
-            if (wrong <= 50) {
-                System.out.println(call + " answered \"" + got + "\", due is \"" + want + "\"");
-            }
+            tellWrong(call + " answered \"" + got + "\", due is \"" + want + "\"");
+        }
+    }
+
+    private static void tellWrong(String answer) {
+        wrong++;
+        if (wrong <= 50) {
+            System.out.println(words + answer);
         }
     }
 
@@ -48,15 +55,18 @@ final class Check {
 
     static String shown(ScoreForms x) {
         StringBuilder all = new StringBuilder();
-        for (int i = 0; i < 60 && x.shown(i) != ScoreForms.NONE; i++) {
-            all.append((char) x.shown(i));
+        int b = x.shown(0);
+        for (int i = 1; b != ScoreForms.NONE && b != ScoreForms.BAD; i++) {
+            all.append((char) b);
+            b = x.shown(i);
         }
         return all.toString();
     }
 
     static String plays(ScoreForms x) {
         StringBuilder all = new StringBuilder();
-        for (int i = 0; i < x.plays(ScoreForms.NONE); i++) {
+        int size = x.plays(ScoreForms.NONE);
+        for (int i = 0; i < size; i++) {
             all.append(x.plays(i)).append(' ');
         }
         return all.toString().trim();

@@ -191,28 +191,37 @@ public final class FormsOracleTest {
 
     private static void checkWhole(String run) {
         List<String> bars = split(run);
+        for (int depth = 0; depth <= 3; depth++) {
+            ScoreForms x = Check.of(run, "");
+            x.depth(depth);
+            checkFound(x, run, found(depth, bars));
+            checkMend(x, depth, bars);
+            checkSpans(run, depth, bars);
+        }
+    }
+
+    private static void checkFound(ScoreForms x, String run, String found) {
+        Check.due("found of " + run, Check.shown(x), found);
+        Check.due("found(2) of " + run, x.found(2), found.contains("%") ? 2 : found.contains("!") ? 1 : 0);
+        Check.due("found(3) of " + run, x.found(3), found.length());
+        if (found.length() <= 40) {
+            Check.tell(x, Check.SCORE, found);
+            Check.due("found plays " + run, x.same(), 1);
+            Check.due("found prints " + run, x.score(0), x.found(0));
+            Check.due("found signs " + run, x.score(1), x.found(1));
+        }
+    }
+
+    // An object of its own: with the calls for FOUND there would be more than 512.
+    private static void checkSpans(String run, int depth, List<String> bars) {
         int size = bars.size();
         ScoreForms x = Check.of(run, "");
-        for (int depth = 0; depth <= 3; depth++) {
-            x.depth(depth);
-            String found = found(depth, bars);
-            Check.due("found of " + run + " at " + depth, Check.shown(x), found);
-            Check.due("found(2) of " + run, x.found(2), found.contains("%") ? 2 : found.contains("!") ? 1 : 0);
-            Check.due("found(3) of " + run, x.found(3), found.length());
-            if (found.length() <= 40) {
-                Check.tell(x, Check.SCORE, found);
-                Check.due("found plays " + run, x.same(), 1);
-                Check.due("found prints " + run, x.score(0), x.found(0));
-                Check.due("found signs " + run, x.score(1), x.found(1));
+        for (int i = 0; i < size; i += 1 + size / 6) {
+            for (int j = i + 1; j <= size; j++) {
+                int weight = weight(best(depth, bars.subList(i, j)));
+                Check.due("span of " + run, x.span(depth, i, j, 0), weight / 1000);
+                Check.due("span of " + run, x.span(depth, i, j, 1), weight % 1000);
             }
-            for (int i = 0; i < size; i += 1 + size / 6) {
-                for (int j = i + 1; j <= size; j++) {
-                    int weight = weight(best(depth, bars.subList(i, j)));
-                    Check.due("span of " + run, x.span(depth, i, j, 0), weight / 1000);
-                    Check.due("span of " + run, x.span(depth, i, j, 1), weight % 1000);
-                }
-            }
-            checkMend(x, depth, bars);
         }
     }
 

@@ -14,10 +14,10 @@ public final class RefusalsTest {
 
     public static void main(String[] args) {
         Random random = new Random(5);
-        for (int round = 0; round < 500; round++) {
+        for (int round = 0; round < 1500; round++) {
             ScoreForms all = new ScoreForms();
             ScoreForms accepted = new ScoreForms();
-            for (int k = 0; k < 200; k++) {
+            for (int k = 0; k < 60; k++) {
                 goOn(all, accepted, random);
                 if (k % 10 == 9) {
                     Check.due("digest", all.digest(), accepted.digest());
@@ -35,7 +35,7 @@ public final class RefusalsTest {
         }
         int kind = random.nextInt(8);
         if (kind == 0) {
-            act(all, ASKING[random.nextInt(ASKING.length)], a);
+            Calls.act(all, ASKING[random.nextInt(ASKING.length)], a);
             return;
         }
         String call = kind < 4 ? CHANGING[random.nextInt(CHANGING.length)] : "type";
@@ -44,10 +44,10 @@ public final class RefusalsTest {
             a[1] = BYTES.charAt(random.nextInt(a[0] == 0 && random.nextInt(8) > 0 ? 4 : BYTES.length()));
         }
         int finding = all.count(8);
-        int answer = act(all, call, a);
+        int answer = Calls.act(all, call, a);
         Check.due(call + ": count(8)", all.count(8), answer <= -11 ? -10 - answer : finding);
         if (answer >= 0) {
-            Check.due(call, act(accepted, call, a), answer);
+            Check.due(call, Calls.act(accepted, call, a), answer);
         }
     }
 
@@ -55,42 +55,19 @@ public final class RefusalsTest {
         // The second object had none of the first one's findings: from here on both have the same.
         Check.due("sheet", all.sheet(0, 0, -1), accepted.sheet(0, 0, -1));
         for (int s = 0; s < 4; s++) {
-            for (int form = 0; form < 3; form++) {
-                for (int i = 0; i < 60; i++) {
-                    Check.due("get", all.get(s, form, i), accepted.get(s, form, i));
-                    Check.due("get: count(8)", all.count(8), accepted.count(8));
-                }
-            }
+            compareItems(all, accepted, s);
             Check.due("lose", all.lose(s), accepted.lose(s));
         }
     }
 
-    private static int act(ScoreForms x, String call, int[] a) {
-        switch (call) {
-            case "type": return x.type(a[0], a[1]);
-            case "wipe": return x.wipe(a[0]);
-            case "undo": return x.undo(a[0]);
-            case "read": return x.read(a[0], a[1]);
-            case "depth": return x.depth(a[0]);
-            case "fault": return x.fault(a[0], a[1]);
-            case "within": return x.within(a[0]);
-            case "bar": return x.bar(a[0]);
-            case "alike": return x.alike(a[0], a[1]);
-            case "again": return x.again(a[0], a[1]);
-            case "plays": return x.plays(a[0]);
-            case "often": return x.often(a[0]);
-            case "score": return x.score(a[0]);
-            case "span": return x.span(a[0], a[1], a[2], a[3]);
-            case "found": return x.found(a[0]);
-            case "shown": return x.shown(a[0]);
-            case "mend": return x.mend(a[0]);
-            case "sheet": return x.sheet(a[0], a[1], a[2]);
-            case "lose": return x.lose(a[0]);
-            case "lay": return x.lay(a[0], a[1], a[2], a[3]);
-            case "get": return x.get(a[0], a[1], a[2]);
-            case "copy": return x.copy(a[0], a[1], a[2], a[3], a[4]);
-            case "write": return x.write(a[0]);
-            default: return x.count(a[0]);
+    private static void compareItems(ScoreForms all, ScoreForms accepted, int s) {
+        for (int form = 0; form < 3; form++) {
+            int answer = all.lay(s, form, -1, 0);
+            Check.due("lay", accepted.lay(s, form, -1, 0), answer);
+            // Only a sheet that is there and of this form finds no such item; so both stay within their 512 calls.
+            for (int i = 0; answer == -12 && i < 60; i++) {
+                Check.due("get", all.get(s, form, i), accepted.get(s, form, i));
+            }
         }
     }
 }

@@ -8,11 +8,11 @@ public final class SheetsModelTest {
 
     public static void main(String[] args) {
         Random random = new Random(3);
-        for (int round = 0; round < 300; round++) {
+        for (int round = 0; round < 600; round++) {
             ScoreForms x = new ScoreForms();
             java.util.Arrays.fill(SHEETS, null);
             latest = 0;
-            for (int k = 0; k < 500; k++) {
+            for (int k = 0; k < 250; k++) {
                 goOn(x, random);
                 Check.due("count(8)", x.count(8), latest);
             }
