@@ -121,7 +121,10 @@ final class FormEdges {
         checkFound("xxxxbxxxxc", 2, "[[xx]:b;c]");
         checkFound("xxxxbxxxxc", 3, "[[[x]]:b;c]");
         checkFound("efxxefg", 2, "[ef:[x];g]");
+        checkFound("efxxefg", 1, "[ef:xx;g]");
+        checkFound("efxxxxefg", 2, "[ef:[xx];g]");
         checkFound("efgefxx", 2, "[ef:g;[x]]");
+        checkFound("efgefxxxx", 2, "[ef:g;[xx]]");
         Document.heading(Document.TERMS, "the first as short as may be, then the second as short as may be.");
         checkFound("eccabacecabcccbba", 3, "e[c:[cab:ace;[c]];[b]]a");
         checkFound("abaacdacc", 2, "[a:b;[ac:d;c]]");

@@ -77,7 +77,11 @@ final class RunAndScoreEdges {
         Calls.due(x, 1, "again", 0, 8);
         Calls.due(x, 1, "again", 7, 8);
         ScoreForms full = Check.of(TextEdges.times("a", 24), "");
+        ScoreForms later = Check.of("xxabababx", "");
+        Calls.due(later, 3, "again", 2, 4);
+        Calls.due(later, 2, "again", 3, 5);
         Calls.due(full, 24, "again", 0, 1);
+        Calls.due(full, 4, "again", 12, 15);
         Calls.due(full, 4, "again", 0, 5);
         Calls.due(full, 2, "again", 0, 12);
         Calls.due(full, 1, "again", 0, 13);

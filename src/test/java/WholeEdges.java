@@ -17,7 +17,10 @@ final class WholeEdges {
         countBad();
         digestOfNewObject();
         digestOfParts();
+        digestOfManySpans();
         digestLeavesOut();
+        changesAreSeen();
+        scoresOneByOne();
         calls();
     }
 
@@ -126,6 +129,24 @@ final class WholeEdges {
         Check.due("digest() of a! and [a[b", x.digest(), digestOf(row));
     }
 
+    private static void digestOfManySpans() {
+        Document.promise(28, "span(1, 0, it, 0), span(2, it, number of BARS, 1), span(3, 0, it, 1)");
+        ScoreForms x = Check.of(TextEdges.times("a", 16), "");
+        List<Integer> row = new ArrayList<>(List.of(16, 16, 1, 2, 0, 0, 3, 10, -1, -1, -1, -1, -1, -1, -1));
+        for (int it = 0; it < 16; it++) {
+            row.addAll(List.of(0, 16 - it, it == 0 ? -3 : 16 / it));
+            row.addAll(List.of(x.span(1, 0, it, 0), x.span(2, it, 16, 1), x.span(3, 0, it, 1)));
+        }
+        row.add(0);
+        row.addAll(Collections.nCopies(41, -1));
+        row.addAll(List.of(0, 0, 0, 0, 0, x.found(0), x.found(1), x.found(2), x.found(3)));
+        for (int i = 0; i < 60; i++) {
+            row.add(x.shown(i));
+        }
+        row.addAll(List.of(x.mend(0), x.mend(1), x.mend(2)));
+        Check.due("digest() of 16 times a", x.digest(), digestOf(row));
+    }
+
     private static void digestLeavesOut() {
         ScoreForms x = Check.of("abab", "[ab]");
         long was = x.digest();
@@ -135,6 +156,59 @@ final class WholeEdges {
         Calls.due(x, 4, "write", 0);
         Check.due("digest() behind a finding and a sheet", x.digest(), was);
         Calls.due(x, 1, "count", 8);
+    }
+
+    /** Whatever was asked before, what is asked now goes by the texts and the DEPTH as they are now. */
+    private static void checkNow(ScoreForms x, String run, String score, int depth) {
+        ScoreForms fresh = Check.of(run, score);
+        fresh.depth(depth);
+        Check.due("digest() of " + run + " and " + score + " at " + depth, x.digest(), fresh.digest());
+    }
+
+    private static void changesAreSeen() {
+        ScoreForms x = new ScoreForms();
+        Document.promise(2, "comes behind a text (0, 1)");
+        for (int size = 1; size <= 6; size++) {
+            x.type(RUN, "aabaac".charAt(size - 1));
+            x.type(SCORE, "[[a]b]".charAt(size - 1));
+            checkNow(x, "aabaac".substring(0, size), "[[a]b]".substring(0, size), 2);
+        }
+        Document.promise(4, "The last byte of a text is undone");
+        x.undo(RUN);
+        checkNow(x, "aabaa", "[[a]b]", 2);
+        x.undo(SCORE);
+        checkNow(x, "aabaa", "[[a]b", 2);
+        Document.promise(5, "Bytes from a SHEET come behind a text");
+        TextEdges.lay(x, 0, 0, 'b', ']');
+        x.read(RUN, 0);
+        checkNow(x, "aabaab]", "[[a]b", 2);
+        x.read(SCORE, 0);
+        checkNow(x, "aabaab]", "[[a]bb]", 2);
+        x.undo(RUN);
+        checkNow(x, "aabaab", "[[a]bb]", 2);
+        Document.promise(6, "DEPTH (0 to 3)");
+        for (int depth : new int[] {3, 0, 1, 2, 1}) {
+            x.depth(depth);
+            checkNow(x, "aabaab", "[[a]bb]", depth);
+        }
+        Document.promise(3, "A text is empty");
+        x.wipe(RUN);
+        checkNow(x, "", "[[a]bb]", 1);
+        x.wipe(SCORE);
+        checkNow(x, "", "", 1);
+    }
+
+    private static void scoresOneByOne() {
+        Document.promise(3, "A text is empty");
+        String[] scores = {"a%b!c$", "a!b$", "a%b!c", "ab", "[a:b", "[c]", "[[[[", "d", "a!b$?", "a1", "1", "[a:b;c]", "!", "[d]", "a!"};
+        ScoreForms x = new ScoreForms();
+        for (String score : scores) {
+            Check.tell(x, SCORE, score);
+            checkNow(x, "", score, 2);
+            Check.tell(x, RUN, score);
+            checkNow(x, score, score, 2);
+            Check.tell(x, RUN, "");
+        }
     }
 
     private static void calls() {
