@@ -8,6 +8,7 @@ public final class ScoreForms {
     private static final int DEEPEST = 3, DEPTH_AT_FIRST = 2;
     private static final int SHEETS = 4, FORMS = 3, ITEMS = 60;
     private static final int NULL = 1, INDEX = 2, CAST = 3, STORE = 4, SIZE = 5;
+    private static final int LEAST = -2147483648;
     private static final int STRANGE = 1, EMPTY = 2, DEEP = 3, STRAY = 4, OPEN = 5;
 
     private final Text[] texts = {new Text(RUN_BYTES), new Text(SCORE_BYTES)};
@@ -294,12 +295,12 @@ public final class ScoreForms {
 
     public int get(int s, int form, int i) {
         if (!isSheet(s) || !isForm(form)) {
-            return Integer.MIN_VALUE;
+            return LEAST;
         }
         int hindrance = hindranceAt(sheets[s], form, i);
         if (hindrance != 0) {
             latestFinding = hindrance;
-            return Integer.MIN_VALUE;
+            return LEAST;
         }
         return sheets[s].items[i];
     }

@@ -27,6 +27,10 @@ final class Document {
 
     /** Whether the words that were quoted stand in the document, and whether they are all that there is. */
     static void checkQuotes(Path file) throws Exception {
+        if (!Files.isReadable(file)) {
+            System.out.println("the document is not there: its words are not compared");
+            return;
+        }
         Map<String, String> sections = sections(Files.readString(file));
         for (int number = 1; number <= 28; number++) {
             checkSection("Promise " + number, sections.getOrDefault("Promise " + number, ""), true);

@@ -58,6 +58,11 @@ final class RunAndScoreEdges {
         Calls.due(full, 1, "alike", 0, 23);
         Calls.due(full, 0, "alike", 0, 24);
         Calls.due(full, 0, "alike", 24, 0);
+        Check.tell(full, Check.RUN, "aa");
+        for (int behind = 2; behind <= 24; behind++) {
+            Calls.due(full, 0, "alike", 0, behind);
+            Calls.due(full, 0, "alike", behind, 1);
+        }
         Calls.due(new ScoreForms(), 0, "alike", 0, 0);
         Calls.due(new ScoreForms(), 0, "alike", 24, 24);
         Document.promise(10, "BAD");

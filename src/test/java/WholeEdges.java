@@ -200,7 +200,9 @@ final class WholeEdges {
 
     private static void scoresOneByOne() {
         Document.promise(3, "A text is empty");
-        String[] scores = {"a%b!c$", "a!b$", "a%b!c", "ab", "[a:b", "[c]", "[[[[", "d", "a!b$?", "a1", "1", "[a:b;c]", "!", "[d]", "a!"};
+        // What one leaves behind, the next must not find: an open [, a jump, a letter that waits for its figure.
+        String[] scores = {"a%b!c$", "a!b$", "a%b!c", "ab", "1", "[a:b", "[c]", "[[[[", "x[b]", "[[[a", "x[b:c;d]", "a!b$?",
+            "a1", "1", "!", "[d]", "a!", "b"};
         ScoreForms x = new ScoreForms();
         for (String score : scores) {
             Check.tell(x, SCORE, score);
