@@ -4,6 +4,8 @@ import java.util.ArrayList;
 import java.util.LinkedHashMap;
 import java.util.List;
 import java.util.Map;
+import java.util.regex.Matcher;
+import java.util.regex.Pattern;
 
 /**
  * Ties the tests of edges to the document: each says which of its words it is about, and at the end every word that
@@ -33,10 +35,40 @@ final class Document {
         }
         Map<String, String> sections = sections(Files.readString(file));
         for (int number = 1; number <= 28; number++) {
-            checkSection("Promise " + number, sections.getOrDefault("Promise " + number, ""), true);
+            checkSection("Promise " + number, sections.getOrDefault("Promise " + number, ""));
         }
-        checkSection(TERMS, sections.getOrDefault(TERMS, ""), true);
-        checkSection(WHAT_IT_IS, sections.getOrDefault(WHAT_IT_IS, ""), false);
+        checkSection(TERMS, sections.getOrDefault(TERMS, ""));
+        checkSection(WHAT_IT_IS, sections.getOrDefault(WHAT_IT_IS, ""));
+    }
+
+    /** The groups of calls, as the document tells them: what the interface says ahead of each, and its calls. */
+    static Map<String, List<String>> groups(Path file) throws Exception {
+        Map<String, List<String>> groups = new LinkedHashMap<>();
+        if (!Files.isReadable(file)) {
+            System.out.println("the document is not there: its groups are not compared");
+            return groups;
+        }
+        Matcher told = Pattern.compile("(?m)^Ahead of the calls? (.*) the interface says: ---- (.*)\\.$").matcher(Files.readString(file));
+        while (told.find()) {
+            groups.put(told.group(2), List.of(told.group(1).replaceAll("[`,]", "").split(" ")));
+        }
+        Check.due("groups of calls in the document", groups.size(), 5);
+        return groups;
+    }
+
+    /** The lines of the public face, each without its semicolon and without what is not the caller's: parameters' names. */
+    static List<String> face(Path file) throws Exception {
+        List<String> face = new ArrayList<>();
+        if (!Files.isReadable(file)) {
+            System.out.println("the document is not there: its face is not compared");
+            return face;
+        }
+        Matcher line = Pattern.compile("(?m)^    public (\\w+ )?(\\w+)\\((.*)\\);$").matcher(Files.readString(file));
+        while (line.find()) {
+            String types = line.group(3).replaceAll("(\\w+) \\w+", "$1").replace(" ", "");
+            face.add((line.group(1) == null ? "" : line.group(1)) + line.group(2) + "(" + types + ")");
+        }
+        return face;
     }
 
     private static Map<String, String> sections(String document) {
@@ -54,7 +86,7 @@ final class Document {
         return sections;
     }
 
-    private static void checkSection(String heading, String text, boolean whole) {
+    private static void checkSection(String heading, String text) {
         Check.about(heading, "the document's own text");
         boolean[] covered = new boolean[text.length()];
         for (String words : QUOTED.getOrDefault(heading, List.of())) {
@@ -69,7 +101,7 @@ final class Document {
             left.append(covered[i] ? ' ' : text.charAt(i));
         }
         String untested = left.toString().replaceAll("[^A-Za-z0-9]+", " ").trim();
-        Check.due("words without a test", whole ? untested : "", "");
+        Check.due("words without a test", untested, "");
         Check.due("is there", text.isEmpty() ? 0 : 1, 1);
     }
 }

@@ -7,6 +7,7 @@ import java.nio.file.Path;
 public final class EdgesTest {
     public static void main(String[] args) throws Exception {
         String root = args.length > 0 ? args[0] : ".";
+        OpeningEdges.run();
         TermEdges.run();
         TextEdges.run();
         RunAndScoreEdges.run();

@@ -6,6 +6,7 @@ import java.nio.file.Files;
 import java.nio.file.Path;
 import java.util.ArrayList;
 import java.util.List;
+import java.util.Map;
 import java.util.Set;
 import java.util.TreeSet;
 import java.util.regex.Matcher;
@@ -24,6 +25,7 @@ public final class LanguageTest {
         checkFace();
         String root = args.length > 0 ? args[0] : ".";
         String source = Files.readString(Path.of(root, "src/main/java/ScoreForms.java"));
+        checkDocument(Path.of(root, "..", "shared", "DOC.md"), source);
         checkWords(withoutComments(source));
         checkMethods(withoutComments(source));
         Check.end();
@@ -62,6 +64,36 @@ public final class LanguageTest {
         }
         Check.due("fields", instanceFields(ScoreForms.class) <= 20 ? 1 : 0, 1);
         Check.due("classes", ScoreForms.class.getDeclaredClasses().length + 1 <= 12 ? 1 : 0, 1);
+    }
+
+    /** The face as the document has it now, and what it says that the interface says ahead of each group of calls. */
+    private static void checkDocument(Path document, String source) throws Exception {
+        Set<String> face = new TreeSet<>(Document.face(document));
+        if (!face.isEmpty()) {
+            Set<String> due = new TreeSet<>(FACE);
+            due.add("ScoreForms()");
+            Check.due("the document's face", face.toString(), due.toString());
+            checkConstants(Files.readString(document));
+        }
+        for (Map.Entry<String, List<String>> group : Document.groups(document).entrySet()) {
+            int at = source.indexOf("// ---- " + group.getKey() + "\n");
+            int end = source.indexOf("// ---- ", at + 1);
+            List<String> calls = new ArrayList<>();
+            Matcher call = Pattern.compile("(?m)^    public \\w+ (\\w+)\\(").matcher(at < 0 ? "" : source.substring(at, end));
+            while (call.find()) {
+                calls.add(call.group(1));
+            }
+            Check.due("calls behind ---- " + group.getKey(), calls.toString(), group.getValue().toString());
+        }
+    }
+
+    private static void checkConstants(String document) throws Exception {
+        Matcher line = Pattern.compile("(?m)^    public static final int (.*);$").matcher(document);
+        Check.due("the document's constants", line.find() ? 1 : 0, 1);
+        for (String constant : line.group(1).split(", ")) {
+            String[] told = constant.split(" = ");
+            Check.due(told[0], ScoreForms.class.getField(told[0]).getInt(null), Integer.parseInt(told[1]));
+        }
     }
 
     private static int instanceFields(Class<?> one) {
